@@ -219,7 +219,7 @@ public final class ListMemory {
 
     /** Every place comes from here, so that it can stand as an index into a row of SIZE. */
     private static int placeOf(long content) {
-        long place = bodyOf(content);
+        long place = content >> KIND_BITS;
         return place >= 0 && place < SIZE ? (int) place : 0;
     }
 
@@ -250,7 +250,11 @@ public final class ListMemory {
     }
 
     private void makeCollection() {
-        collector.layAll(half, otherHalf, roots);
+        otherHalf.clear();
+        collector.listReached(half, roots);
+        collector.layListed(half, otherHalf, true);
+        collector.layListed(half, otherHalf, false);
+        collector.tellNewPlaces(half, otherHalf, roots);
         Half left = half;
         half = otherHalf;
         otherHalf = left;
@@ -329,19 +333,19 @@ public final class ListMemory {
         }
 
         boolean isUsed(int p) {
-            return p >= 0 && p < taken && p < SIZE;
+            return p >= 0 && p < taken;
         }
 
         int codeAt(int p) {
-            return isUsed(p) ? codes[p] : END;
+            return p >= 0 && p < SIZE ? codes[p] : END;
         }
 
         long contentAt(int p) {
-            return isUsed(p) ? contents[p] : NIL;
+            return p >= 0 && p < SIZE ? contents[p] : NIL;
         }
 
         void setContent(int p, long content) {
-            if (isUsed(p)) {
+            if (p >= 0 && p < SIZE) {
                 contents[p] = content;
             }
         }
@@ -399,20 +403,11 @@ public final class ListMemory {
         private final int[] newPlaces = new int[SIZE];
         private int many = 0;
 
-        void layAll(Half from, Half to, long[] roots) {
+        void listReached(Half from, long[] roots) {
             many = 0;
             Arrays.fill(isListed, 0);
             Arrays.fill(isRest, 0);
             Arrays.fill(newPlaces, NONE);
-            to.clear();
-            listReached(from, roots);
-            layListed(from, to, true);
-            layListed(from, to, false);
-            tellNewPlaces(from, to, roots);
-            from.clear();
-        }
-
-        private void listReached(Half from, long[] roots) {
             for (int r = 0; r < roots.length; r++) {
                 listPair(from, roots[r]);
             }
@@ -439,24 +434,22 @@ public final class ListMemory {
             }
         }
 
-        private void layListed(Half from, Half to, boolean headsAlone) {
+        void layListed(Half from, Half to, boolean headsAlone) {
             for (int i = 0; i < many && i < SIZE; i++) {
                 int cell = listed[i];
-                boolean isDue = !headsAlone || isRest[cell] == 0;
-                if (isDue && newPlaces[cell] == NONE) {
-                    laySpine(from, to, cell);
+                if (newPlaces[cell] != NONE || (headsAlone && isRest[cell] == 1)) {
+                    continue;
+                }
+                for (int laid = 0; laid < SIZE && cell != NONE; laid++) {
+                    cell = layCell(from, to, cell);
                 }
             }
         }
 
-        private void laySpine(Half from, Half to, int head) {
-            int cell = head;
-            for (int i = 0; i < SIZE && cell != NONE; i++) {
-                cell = layCell(from, to, cell);
-            }
-        }
-
-        /** The contents still tell places of the old half: not all new places are known yet. */
+        /**
+         * Answers the cell that is to lie behind this one, or NONE. The contents still tell places
+         * of the old half: not all new places are known yet.
+         */
         private int layCell(Half from, Half to, int cell) {
             long first = from.contentAt(cell);
             long rest = from.restOf(cell);
@@ -476,7 +469,7 @@ public final class ListMemory {
             return NONE;
         }
 
-        private void tellNewPlaces(Half from, Half to, long[] roots) {
+        void tellNewPlaces(Half from, Half to, long[] roots) {
             for (int p = 0; p < to.taken; p++) {
                 to.setContent(p, inNewHalf(from, to.contentAt(p)));
             }

@@ -377,6 +377,13 @@ public final class PromiseTests {
         due("11: of nil no words", m.about(0), 10);
         m.append(3, 3, 3);
         due("11: of itself to itself", m.length(3), 4);
+        ListMemory n = new ListMemory();
+        n.number(0, 70);
+        n.number(1, 50);
+        n.cons(2, 1, 9);
+        n.cons(2, 0, 2);
+        n.append(3, 2, 9);
+        due("11: of cells with PAIR", dump(n), "2:1:50 3:0:0 2:1:70 3:2:0 0:1:70 1:1:50");
         m.setRest(4, 4);
         dueThrow("11: of a number", IllegalStateException.class, () -> m.append(7, 0, 3));
         dueThrow("11: of what ends in a number", IllegalStateException.class, () -> m.append(7, 6, 3));
@@ -401,6 +408,12 @@ public final class PromiseTests {
         n.append(6, 5, 9);
         due("11: just enough words", n.about(0), 120);
         due("11: just enough words, no collection", n.about(2), 0);
+
+        ListMemory w = withList(5, 3);
+        waste(w, 113);
+        w.append(6, 5, 0);
+        due("11: just enough words with one more", w.about(0), 120);
+        due("11: just enough words with one more, no collection", w.about(2), 0);
 
         ListMemory k = withList(9, 10);
         k.append(9, 9, 9);
@@ -604,6 +617,20 @@ public final class PromiseTests {
         w.drop(3);
         w.collect();
         due("18: first ahead of rest, a number as rest", dump(w), "2:2:2 3:1:1 0:1:1 1:1:2");
+
+        // Each list is twice in the next one: its pairs are listed once, not once for each way.
+        ListMemory d = withList(3, 1);
+        for (int i = 0; i < 20; i++) {
+            d.copy(4, 3);
+            d.list(3, 3, 2);
+        }
+        d.drop(4);
+        due("18: reached by many ways", d.collect(), 41);
+        for (int i = 0; i < 20; i++) {
+            d.first(3, 3);
+        }
+        d.first(3, 3);
+        due("18: reached by many ways, the last", d.value(3), 1L);
 
         ListMemory e = withList(3, 2);
         e.drop(3);
