@@ -7,8 +7,9 @@ import java.util.NoSuchElementException;
 import java.util.Set;
 
 /**
- * Long runs of calls against a second program, written from the document alone. There a pair is an
- * object that knows its cell, so that nothing of how the first one finds pairs is used again.
+ * Long runs of calls against a second, plainer program. There a pair is an object that knows its
+ * cell, so that nothing of how the first one finds pairs is used again. It is by the same hand and
+ * reads the document in the same way: it shows slips, not misreadings.
  */
 public final class ModelTests {
     private static final int RUNS = 3000;
