@@ -94,6 +94,9 @@ public final class AnswerBoundaryTests extends Boundaries {
         due("PAIR and NEXT and END", after(two, m -> m.cons(3, 0, 1)).words(3), 4);
         due("no firsts", after(two, m -> m.cons(3, 1, 9)).words(3), 2);
         due("a round of two, each once", after(m -> m.cons(1, 0, 0), m -> m.cons(2, 0, 1), m -> m.setRest(1, 2)).words(1), 4);
+        ListMemory twice = after(two, m -> m.words(1), m -> m.words(2));
+        due("asked again", twice.words(1), 2);
+        due("asked again, of its rest", twice.words(2), 1);
         due("a half full of them", after(longestEndingInANumber(), m -> m.list(3, 0, 1), m -> m.setRest(2, 3)).words(1), 120);
         due("the longest list", after(straight(119)).words(1), 119);
     }
@@ -133,6 +136,8 @@ public final class AnswerBoundaryTests extends Boundaries {
         due("the least and the greatest", after(m -> m.number(0, LEAST), m -> m.number(1, GREATEST)).alike(0, 1), false);
         due("the greatest and the one below", after(m -> m.number(0, GREATEST), m -> m.number(1, GREATEST - 1)).alike(0, 1), false);
         due("a full half and itself", after(kept(SIZE), m -> m.copy(1, 8)).alike(1, 8), true);
+        due("as many pairs as there can be", after(chain(SIZE)).alike(1, 1), true);
+        due("all of them but one", after(chain(SIZE), m -> m.first(2, 1)).alike(1, 2), false);
     }
 
     private static void alikeOneByOne() {
@@ -147,6 +152,17 @@ public final class AnswerBoundaryTests extends Boundaries {
         due("a round of two and its other pair", after(rounds).alike(2, 3), true);
         due("a round and a way to it", after(rounds).alike(1, 4), false);
         due("a way to a round and the round", after(rounds).alike(4, 1), false);
+        ListMemory twice = after(rounds, m -> m.alike(1, 2), m -> m.alike(2, 3), m -> m.alike(1, 4));
+        due("asked again, a round of two and its other pair", twice.alike(2, 3), true);
+        due("asked again, a round of one and a round of two", twice.alike(1, 2), false);
+        // A round through the firsts of as many pairs as there can be: each is set against the next.
+        Run firsts = all(chain(SIZE), m -> m.copy(2, 1), m -> {
+            for (int i = 1; i < SIZE; i++) {
+                m.first(2, 2);
+            }
+        }, m -> m.setFirst(2, 1), m -> m.first(3, 1));
+        due("the longest round by firsts and its next", after(firsts).alike(1, 3), true);
+        due("the longest round by firsts and its last", after(firsts).alike(1, 2), true);
         Run crossed = all(m -> m.list(1, 0, 1), m -> m.list(2, 0, 1), m -> m.setFirst(1, 2), m -> m.setFirst(2, 1));
         due("each the other's first", after(crossed).alike(1, 2), true);
     }

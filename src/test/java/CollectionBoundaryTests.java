@@ -27,8 +27,12 @@ public final class CollectionBoundaryTests extends Boundaries {
                 "1:1:0 1:1:1 1:1:2 1:1:3 1:1:4 1:1:5 1:1:6 1:1:7 1:1:8 1:1:9");
         due("one pair in two roots", dump(after(numbered, m -> m.copy(9, 0), m -> m.collect())),
                 "1:1:0 1:1:1 1:1:2 1:1:3 1:1:4 1:1:5 1:1:6 1:1:7 1:1:8");
-        due("root 0 alone", dump(after(m -> m.number(1, 5), m -> m.list(0, 1, 1), m -> m.collect())), "1:1:5");
-        due("root 9 alone", dump(after(m -> m.number(1, 5), m -> m.list(9, 1, 1), m -> m.collect())), "1:1:5");
+        for (int r = 0; r <= 9; r++) {
+            int root = r;
+            Run alone = all(m -> waste(m, 3), m -> m.list(root, root, 1), m -> m.setFirst(root, root), m -> m.collect());
+            due("root " + r + " alone", dump(after(alone)), "1:2:0");
+            due("root " + r + " alone, its place", dump(after(alone, m -> m.setFirst(root, root))), "1:2:0");
+        }
         due("nil and numbers alone", after(m -> m.number(1, 0), m -> waste(m, 4), m -> m.collect()).about(0), 0);
     }
 
@@ -48,6 +52,17 @@ public final class CollectionBoundaryTests extends Boundaries {
         due("what roots hold ahead of what pairs have", dump(after(roots, m -> m.collect())), "2:2:3 3:1:1 1:1:5 1:1:1");
         Run both = all(m -> m.list(1, 0, 1), m -> m.cons(1, 1, 1), m -> m.cons(1, 1, 1), m -> m.cons(1, 1, 1));
         due("each pair once", dump(after(both, m -> m.collect())), "0:2:1 0:2:2 0:2:3 1:0:0");
+        Run ways = m -> {
+            for (int i = 0; i < 30; i++) {
+                m.copy(2, 1);
+                m.list(1, 1, 2);
+            }
+            m.drop(2);
+        };
+        due("each pair once, though there are many ways to it", after(ways, m -> m.collect()).about(0), 60);
+        due("as many as there can be", after(chain(SIZE), m -> m.collect()).about(0), SIZE);
+        due("as many as there can be, the last one's first", after(chain(SIZE), m -> m.collect()).word(119, 1), 0L);
+        due("as many as there can be, the one before", after(chain(SIZE), m -> m.collect()).word(118, 2), 119L);
         Run round = all(m -> m.list(1, 0, 1), m -> m.setFirst(1, 1));
         due("its own first", dump(after(round, m -> m.collect())), "1:2:0");
     }
@@ -87,6 +102,8 @@ public final class CollectionBoundaryTests extends Boundaries {
         Run listed = all(m -> m.number(2, 2), m -> m.number(3, 3), m -> m.list(1, 2, 2), m -> m.rest(0, 1), m -> m.list(4, 2, 1));
         due("its head is listed", dump(after(listed, m -> m.collect())), "0:1:2 1:1:3 1:1:2");
         due("its head is not listed", dump(after(listed, m -> m.drop(1), m -> m.collect())), "1:1:3 1:1:2");
+        due("its head was listed in the collection before", dump(after(listed, m -> m.collect(), m -> m.rest(0, 1), m -> m.drop(1),
+                m -> m.collect(), m -> m.collect())), "1:1:3 1:1:2");
         // Root 0 has the word behind a cell that moved away: by its old code alone it would be a rest.
         Run left = all(m -> m.number(2, 2), m -> m.number(3, 3), m -> m.list(1, 2, 2), m -> m.rest(0, 1), m -> m.setRest(1, 9),
                 m -> m.collect());
@@ -173,5 +190,24 @@ public final class CollectionBoundaryTests extends Boundaries {
         due("back in the first half", dump(after(moves, m -> m.collect(), m -> m.collect())), "2:1:7 3:1:7 2:1:7 3:2:2");
         due("the words of the half before are not used", outcome(after(moves, m -> m.collect()), m -> m.word(4, 0)),
                 "IndexOutOfBoundsException");
+        // Word 1 was moved in the half before: that is nothing to the pair that lies in word 1 now.
+        Run before = all(m -> m.list(2, 0, 1), m -> m.list(1, 0, 1), m -> m.setRest(1, 1), m -> m.drop(1), m -> m.collect());
+        due("a pair where one had moved", dump(after(before, m -> m.list(3, 0, 1), m -> m.setRest(3, 3))), "1:0:0 1:3:2 2:0:0 3:2:1");
+        // Both halves have had moved and other words in all places: none of them may show again.
+        Run dirt = all(CollectionBoundaryTests::moveAll, m -> m.collect(), CollectionBoundaryTests::moveAll, m -> m.collect());
+        Run[] runs = {MIXED, chain(60), kept(SIZE), m -> m.list(1, 0, 10), all(MIXED, m -> m.collect()), CollectionBoundaryTests::moveAll};
+        for (int i = 0; i < runs.length; i++) {
+            dueWhole("in halves that were used before, run " + i, all(dirt, runs[i]),
+                    all(m -> m.collect(), m -> m.collect(), runs[i]));
+        }
+    }
+
+    /** The half is full of pairs that moved, and none of them is reached. */
+    private static void moveAll(ListMemory m) {
+        for (int i = 0; i < 40; i++) {
+            m.list(1, 1, 1);
+            m.setRest(1, 1);
+        }
+        m.drop(1);
     }
 }

@@ -207,6 +207,15 @@ abstract class Boundaries {
         };
     }
 
+    /** Root 1 has so many pairs of one word each, none of them a rest: each is the first of the next. */
+    protected static Run chain(int many) {
+        return m -> {
+            for (int i = 0; i < many; i++) {
+                m.list(1, 1, 1);
+            }
+        };
+    }
+
     /** Numbers in 0 and 1, cells with NEXT in 2, moved in 3, with PAIR in 4, a round in 5, nil behind. */
     protected static void mix(ListMemory m) {
         m.number(0, 7);
