@@ -4,6 +4,7 @@ public final class AnswerBoundaryTests extends Boundaries {
         make(
                 AnswerBoundaryTests::kinds,
                 AnswerBoundaryTests::values,
+                AnswerBoundaryTests::same,
                 AnswerBoundaryTests::lengthToNil,
                 AnswerBoundaryTests::lengthNone,
                 AnswerBoundaryTests::lengthNever,
@@ -41,6 +42,23 @@ public final class AnswerBoundaryTests extends Boundaries {
             refused("value(" + r + ")", IllegalStateException.class, MIXED, m -> m.value(root));
         }
         refused("value of what was a number", IllegalStateException.class, all(MIXED, m -> m.drop(0)), m -> m.value(0));
+    }
+
+    private static void same() {
+        sentence("Promise 14", "Whether two roots hold the same.");
+        for (int a = 0; a <= 9; a++) {
+            due("root " + a + " and itself", after(MIXED).same(a, a), true);
+            for (int b = 0; b <= 9; b++) {
+                due("roots " + a + " and " + b, after(MIXED).same(a, b), a == b || a >= 6 && b >= 6);
+                due("roots " + a + " and " + b + ", collected", after(MIXED, m -> m.collect()).same(a, b), a == b || a >= 6 && b >= 6);
+            }
+        }
+        due("the first and the last root", after(m -> m.list(0, 0, 1), m -> m.copy(9, 0)).same(0, 9), true);
+        due("the first and the last word", after(chain(SIZE), m -> m.copy(2, 1), m -> {
+            for (int i = 1; i < SIZE; i++) {
+                m.first(2, 2);
+            }
+        }).same(1, 2), false);
     }
 
     private static void lengthToNil() {

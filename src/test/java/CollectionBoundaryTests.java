@@ -46,7 +46,7 @@ public final class CollectionBoundaryTests extends Boundaries {
         Run deep = all(m -> m.number(1, 1), m -> m.number(2, 2), m -> m.list(3, 2, 1), m -> m.list(2, 1, 1), m -> m.list(2, 2, 1),
                 m -> m.list(0, 2, 2), m -> m.drop(2), m -> m.drop(3));
         due("level by level", dump(after(deep, m -> m.collect())), "0:2:2 1:2:4 1:2:3 1:1:1 1:1:2");
-        // Root 0 is ((1 . 8) (2 . 8) . 9), listed: root 0, (1 . 8), its rest, (2 . 8).
+        // Root 0 is ((1) . 1), root 1 is (5): the list (1) is listed last.
         Run roots = all(m -> m.number(1, 1), m -> m.list(2, 1, 1), m -> m.cons(0, 2, 1), m -> m.number(1, 5), m -> m.list(1, 1, 1),
                 m -> m.drop(2));
         due("what roots hold ahead of what pairs have", dump(after(roots, m -> m.collect())), "2:2:3 3:1:1 1:1:5 1:1:1");

@@ -29,7 +29,10 @@ public final class TermsBoundaryTests extends Boundaries {
                 TermsBoundaryTests::placesThatAreTold,
                 TermsBoundaryTests::placesHandedOn,
                 TermsBoundaryTests::placesOfTheWordBehind,
-                TermsBoundaryTests::newWords);
+                TermsBoundaryTests::newWords,
+                TermsBoundaryTests::roomMadeFirst,
+                TermsBoundaryTests::roomNotMade,
+                TermsBoundaryTests::throwingChangesNothing);
     }
 
     private static void callsOfAnObject() {
@@ -331,5 +334,66 @@ public final class TermsBoundaryTests extends Boundaries {
         due("by append to a value", dump(after(mixed, m -> m.append(9, 4, 0))), words + " 2:2:0 3:1:7");
         due("though none is reached", after(mixed, m -> m.drop(2), m -> m.drop(3), m -> m.drop(4), m -> m.drop(5),
                 m -> m.list(9, 0, 1)).about(0), 10);
+    }
+
+    private static void roomMadeFirst() {
+        sentence("Terms", "If a call needs more than are left of the half, a COLLECTION is made first");
+        // Root 1 has (7 7), in three words behind five wasted ones, and in two once it is collected.
+        Run reached = all(m -> m.number(0, 7), m -> waste(m, 5), m -> m.list(1, 0, 1), m -> m.cons(1, 0, 1));
+        Run[] calls = {m -> m.cons(2, 0, 1), m -> m.list(2, 0, 2), m -> m.append(2, 1, 9)};
+        String[] words = {" 2:1:7 3:2:0", " 0:1:7 1:2:0", " 0:1:7 1:1:7"};
+        for (int i = 0; i < calls.length; i++) {
+            Run twoLeft = all(reached, m -> waste(m, 110));
+            Run oneLeft = all(reached, m -> waste(m, 111));
+            Run noneLeft = all(reached, m -> waste(m, 112));
+            due("call " + i + ", just so many left, used", after(twoLeft, calls[i]).about(0), SIZE);
+            due("call " + i + ", just so many left, collections", after(twoLeft, calls[i]).about(2), 0);
+            due("call " + i + ", one too few left", dump(after(oneLeft, calls[i])), "0:1:7 1:1:7" + words[i]);
+            due("call " + i + ", one too few left, collections", after(oneLeft, calls[i]).about(2), 1);
+            due("call " + i + ", none left", dump(after(noneLeft, calls[i])), "0:1:7 1:1:7" + words[i]);
+            due("call " + i + ", none left, collections", after(noneLeft, calls[i]).about(2), 1);
+        }
+        Run list = all(m -> m.number(0, 7), m -> waste(m, 5), m -> m.list(1, 0, 1));
+        due("setRest, just so many left", after(list, m -> waste(m, 112), m -> m.setRest(1, 0)).about(2), 0);
+        due("setRest, one too few left", dump(after(list, m -> waste(m, 113), m -> m.setRest(1, 0))), "1:3:1 2:1:7 3:1:7");
+        due("setRest, none left", dump(after(list, m -> waste(m, 114), m -> m.setRest(1, 0))), "1:3:1 2:1:7 3:1:7");
+    }
+
+    private static void roomNotMade() {
+        sentence("Terms", "if there are not enough then, the call throws UnsupportedOperationException (the collection stays; nothing else changes)");
+        // All words are used, one of them by a moved pair: a collection leaves just that one.
+        Run tight = all(m -> m.number(0, 7), m -> m.list(1, 0, 2), m -> m.rest(2, 1), m -> m.setRest(2, 1), m -> m.list(3, 0, 1), kept(115));
+        due("words used before", after(tight).about(0), SIZE);
+        due("words used when collected", after(tight, m -> m.collect()).about(0), SIZE - 1);
+        Run full = all(tight, m -> m.list(5, 0, 1));
+        due("words used with one more", after(full).about(0), SIZE);
+        due("words used with one more when collected", after(full, m -> m.collect()).about(0), SIZE);
+        refusedForRoom("cons, one word", tight, m -> m.cons(1, 1, 1));
+        refusedForRoom("list of two, one word", tight, m -> m.list(1, 0, 2));
+        refusedForRoom("setRest, one word", tight, m -> m.setRest(3, 0));
+        refusedForRoom("append of one to a number, one word", tight, m -> m.append(3, 3, 0));
+        refusedForRoom("list of one, no word", full, m -> m.list(1, 0, 1));
+        refusedForRoom("append of one to nil, no word", full, m -> m.append(3, 3, 9));
+        due("list of one, one word", outcomeOf(after(tight), m -> m.list(1, 0, 1)), "nothing");
+        due("append of one to nil, one word", outcomeOf(after(tight), m -> m.append(3, 3, 9)), "nothing");
+    }
+
+    private static void throwingChangesNothing() {
+        sentence("Terms", "A call that throws changes nothing, but for a collection.");
+        Run full = all(MIXED, m -> m.copy(6, 0), kept(110), m -> waste(m, 1));
+        due("words used", after(full).about(0), SIZE);
+        for (Run scene : new Run[] {MIXED, full}) {
+            refused("number", IllegalArgumentException.class, scene, m -> m.number(2, GREATEST + 1));
+            refused("list", IllegalArgumentException.class, scene, m -> m.list(2, 9, 2));
+            refused("first", IllegalStateException.class, scene, m -> m.first(2, 0));
+            refused("rest", IllegalStateException.class, scene, m -> m.rest(2, 0));
+            refused("setFirst", IllegalStateException.class, scene, m -> m.setFirst(0, 2));
+            refused("setRest", IllegalStateException.class, scene, m -> m.setRest(0, 2));
+            refused("append", IllegalStateException.class, scene, m -> m.append(2, 2, 2));
+            refused("value", IllegalStateException.class, scene, m -> m.value(2));
+            refused("word", IndexOutOfBoundsException.class, scene, m -> m.word(-1, 0));
+            refused("word of another what", IllegalArgumentException.class, scene, m -> m.word(0, 3));
+            refused("cons", NoSuchElementException.class, scene, m -> m.cons(2, 2, 10));
+        }
     }
 }
